@@ -939,10 +939,6 @@ public final class SlipRoom {
         private final int[] tales = new int[TALES * MOST_BOOKS];
         private final int[] refusals = new int[REFUSALS];
 
-        Ledger() {
-            Arrays.fill(allReadAt, NONE);
-        }
-
         /** All but STATUS, which outlives a ROOM. Rows behind the counts are never read. */
         void clear() {
             loans = 0;

@@ -6,6 +6,8 @@ public final class ImageTest {
         allThatIsKept();
         oftenRestored();
         inPlaceOfAnother();
+        whereItWasLaid();
+        loansThatNeverWere();
         notKept();
         CHECK.end();
     }
@@ -117,6 +119,28 @@ public final class ImageTest {
         room.drop(1, 40, 1);
         CHECK.holds("restore", room.restore());
         same("the later one", answers(room), before);
+    }
+
+    private static void whereItWasLaid() {
+        SlipRoom room = CHECK.roomOf("book 40 parts 10; reader 5;");
+        room.loan(0, 0, 0, 1);
+        room.image();
+        room.loan(0, 0, 1, 6);
+        CHECK.holds("restore", room.restore());
+        room.drop(0, 1, 0);
+        CHECK.due("pages", room.loan(0, 0, 1, 1), 5);
+        CHECK.due("in the part of where it was laid then", room.lent(1, 4), 1);
+    }
+
+    private static void loansThatNeverWere() {
+        SlipRoom room = CHECK.roomOf("book 40; reader 5;");
+        room.look(0, 9, 0, 2);
+        room.image();
+        room.loan(0, 0, 0, 5);
+        CHECK.due("ways by a loan", room.ways(0), 1);
+        CHECK.holds("restore", room.restore());
+        CHECK.due("no ways without it", room.ways(0), 0);
+        CHECK.noElement("nor a loan", () -> room.lent(0, 0));
     }
 
     /** The order, the tape and fault() are not among what an image keeps. */

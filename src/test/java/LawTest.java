@@ -61,6 +61,8 @@ public final class LawTest {
         law("7 / (0 - 2) = 0 - 3", true);
         law("(0 - 7) / (0 - 2) = 3", true);
         law("0007 = 7", true);
+        law("9999 - 9998 = 1", true);
+        law("9999 + 1 = 5000 * 2", true);
     }
 
     private static void binding() {

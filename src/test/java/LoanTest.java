@@ -16,6 +16,7 @@ public final class LoanTest {
         onlyTheEnds();
         allRead();
         unopened();
+        rowsApart();
         aheadOf();
         noSuch();
         CHECK.end();
@@ -117,6 +118,10 @@ public final class LoanTest {
         refused(room, 0, 0, 200, 1);
         row(room, 199, 0, 0, 199, 1, 200, 1);
         CHECK.due("slip", room.slip(0, 0), 201);
+        room.look(0, 200, 0, 201);
+        CHECK.due("all of them count for ways", room.ways(0), 1);
+        room.look(0, 199, 0, 201);
+        CHECK.due("and no more than there are", room.moved(0), 2);
     }
 
     private static void back() {
@@ -317,6 +322,24 @@ public final class LoanTest {
         CHECK.due("none", room.book(0, 2), 0);
     }
 
+    private static void rowsApart() {
+        SlipRoom room = CHECK.roomOf("book 400;".repeat(10) + "reader 60;".repeat(8));
+        CHECK.due("all of it", room.loan(3, 5, 0, 7), 400);
+        CHECK.due("read", room.read(3, 5, 0), 400);
+        CHECK.due("in a row", room.read(3, 5, 1), 400);
+        for (int reader = 0; reader < 8; reader++) {
+            for (int book = 0; book < 10; book++) {
+                int want = reader == 3 && book == 5 ? 400 : 0;
+                String call = "of " + reader + " in " + book;
+                CHECK.due("read " + call, room.read(reader, book, 0), want);
+                CHECK.due("in a row " + call, room.read(reader, book, 1), want);
+                CHECK.due("last page " + call, room.has(reader, book, 400) ? 400 : 0, want);
+                CHECK.due("page 321 " + call, room.has(reader, book, 321) ? 400 : 0, want);
+                CHECK.due("unopened of " + book, room.book(book, 2), book == 5 ? 0 : 400);
+            }
+        }
+    }
+
     private static void aheadOf() {
         SlipRoom room = CHECK.roomOf("book 100; reader 30; reader 20; reader 1;");
         room.loan(0, 0, 0, 1);
@@ -332,6 +355,11 @@ public final class LoanTest {
         CHECK.due("slip of 1", room.slip(1, 0), -1);
         CHECK.noElement("one is lost", () -> room.ahead(0, 1, 0));
         CHECK.noElement("one is lost", () -> room.ahead(1, 0, 0));
+        room.loan(1, 0, 2, 1);
+        CHECK.due("laid anew", room.slip(1, 0), 21);
+        room.drop(0, 3, -5);
+        CHECK.due("one lies at page 1", room.ahead(1, 0, 0), 15);
+        CHECK.due("one lies at page 1", room.ahead(0, 1, 0), -15);
         CHECK.noElement("no such reader", () -> room.ahead(3, 0, 0));
         CHECK.noElement("no such other", () -> room.ahead(0, 3, 0));
         CHECK.noElement("no such book", () -> room.ahead(0, 1, 1));
@@ -352,6 +380,22 @@ public final class LoanTest {
         CHECK.noElement("read(0, 1, 0)", () -> room.read(0, 1, 0));
         CHECK.noElement("has(1, 0, 1)", () -> room.has(1, 0, 1));
         CHECK.noElement("has(0, 1, 1)", () -> room.has(0, 1, 1));
+        for (int wrong : new int[] {-1, 1, 8, 10, Integer.MIN_VALUE, Integer.MAX_VALUE}) {
+            CHECK.noElement("loan, reader " + wrong, () -> room.loan(wrong, 0, 0, 1));
+            CHECK.noElement("loan, book " + wrong, () -> room.loan(0, wrong, 0, 1));
+            CHECK.noElement("drop, book " + wrong, () -> room.drop(wrong, 0, 1));
+            CHECK.noElement("slip, reader " + wrong, () -> room.slip(wrong, 0));
+            CHECK.noElement("slip, book " + wrong, () -> room.slip(0, wrong));
+            CHECK.noElement("read, reader " + wrong, () -> room.read(wrong, 0, 0));
+            CHECK.noElement("read, book " + wrong, () -> room.read(0, wrong, 0));
+            CHECK.noElement("has, reader " + wrong, () -> room.has(wrong, 0, 1));
+            CHECK.noElement("has, book " + wrong, () -> room.has(0, wrong, 1));
+            CHECK.noElement("ahead, reader " + wrong, () -> room.ahead(wrong, 0, 0));
+            CHECK.noElement("ahead, other " + wrong, () -> room.ahead(0, wrong, 0));
+            CHECK.noElement("ahead, book " + wrong, () -> room.ahead(0, 0, wrong));
+            CHECK.noElement("book " + wrong, () -> room.book(wrong, 0));
+            CHECK.noElement("reader " + wrong, () -> room.reader(wrong, 0));
+        }
         CHECK.due("STATUS 1 counts no exceptions", room.count(8), 0);
         CHECK.due("no loans", room.count(2), 0);
     }

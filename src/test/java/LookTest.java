@@ -19,6 +19,7 @@ public final class LookTest {
         movedLooks();
         movedByNumbers();
         allWays();
+        fullRows();
         noSuch();
         CHECK.end();
     }
@@ -281,6 +282,23 @@ public final class LookTest {
         CHECK.due("8 by 7 by 6 by 5 by 4 by 3", apart.ways(0), 20160);
     }
 
+    private static void fullRows() {
+        SlipRoom room = CHECK.roomOf("book 90;" + "reader 1 colour 1;".repeat(6) + "reader 10; reader 10;");
+        room.loan(7, 0, 0, 3);
+        room.loan(6, 0, 3, 2);
+        for (int i = 0; i < 6; i++) {
+            room.look(0, 20 - i, i == 3 ? 1 : 0, i < 3 ? 30 : i == 3 ? 1 : 21);
+        }
+        CHECK.due("only 7 came to 30, so that he was not at 21 behind his loan", room.ways(0), 6);
+        CHECK.due("whose 30 is", room.whose(0, 1), 7);
+        CHECK.due("whose 21 may be", room.whose(5, 0), 64);
+        CHECK.due("whose the coloured one may be", room.whose(3, 0), 63);
+        CHECK.due("least of 7", room.ends(7, 0, 0), 30);
+        CHECK.due("most of 6", room.ends(6, 0, 1), 21);
+        CHECK.due("least of 6", room.ends(6, 0, 0), 21);
+        CHECK.due("moved", room.moved(0), 0);
+    }
+
     private static void noSuch() {
         SlipRoom room = CHECK.roomOf("book 9; reader 1;");
         room.look(0, 1, 0, 1);
@@ -298,6 +316,14 @@ public final class LookTest {
         CHECK.noElement("ends(0, 1, 0)", () -> room.ends(0, 1, 0));
         CHECK.noElement("ends(0, 0, 2)", () -> room.ends(0, 0, 2));
         CHECK.noElement("ends(0, 0, -1)", () -> room.ends(0, 0, -1));
+        for (int wrong : new int[] {-1, 1, 8, 10, Integer.MIN_VALUE, Integer.MAX_VALUE}) {
+            CHECK.noElement("look, book " + wrong, () -> room.look(wrong, 0, 0, 1));
+            CHECK.noElement("ways, book " + wrong, () -> room.ways(wrong));
+            CHECK.noElement("whose, look " + wrong, () -> room.whose(wrong, 0));
+            CHECK.noElement("ends, reader " + wrong, () -> room.ends(wrong, 0, 0));
+            CHECK.noElement("ends, book " + wrong, () -> room.ends(0, wrong, 0));
+            CHECK.noElement("moved, book " + wrong, () -> room.moved(wrong));
+        }
         CHECK.noElement("moved(1)", () -> room.moved(1));
         CHECK.noElement("moved(-1)", () -> room.moved(-1));
     }

@@ -31,6 +31,7 @@ public final class TaleTest {
         CHECK.fails("tale(0, 0, 402)", room.tale(0, 0, 402));
         CHECK.fails("tale(least int, 0, 1)", room.tale(Integer.MIN_VALUE, 0, 1));
         CHECK.noElement("tale(0, 1, 1)", () -> room.tale(0, 1, 1));
+        CHECK.noElement("tale(0, 10, 1)", () -> room.tale(0, 10, 1));
         CHECK.noElement("tale(6, -1, 402)", () -> room.tale(6, -1, 402));
         settles(room, 33, 1, 0);
         settles(room, 3, -1, -1);

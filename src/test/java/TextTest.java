@@ -6,7 +6,10 @@ public final class TextTest {
         newObject();
         tape();
         roomTakesFirstBytes();
+        cutTexts();
+        fullTape();
         roomIsAllAnew();
+        manyRooms();
         faultLeavesAll();
         counts();
         books();
@@ -74,6 +77,52 @@ public final class TextTest {
         CHECK.badArgument("room(1) of no tape", () -> room.room(1));
     }
 
+    /** What stands on the tape behind the n bytes is no part of the text. */
+    private static void cut(String tape, int n, int fault, int place) {
+        SlipRoom room = new SlipRoom();
+        Check.feed(room, tape);
+        CHECK.due("room(" + n + ") of '" + tape + "'", room.room(n), fault);
+        CHECK.due("its place", room.fault(), place);
+    }
+
+    private static void cutTexts() {
+        cut("book 12;", 6, 1, 6);
+        cut("book 12;", 7, 1, 7);
+        cut("book 401;", 7, 1, 7);
+        cut("reader 1 endsx;", 13, 1, 13);
+        cut("reader 1 ends;", 12, 1, 9);
+        cut("book 1;book", 7, 0, -1);
+        cut("book 1;   ?", 10, 0, -1);
+        cut("reader 1 stops 12345;", 19, 1, 19);
+        cut("reader 1 stops pages;", 19, 1, 19);
+    }
+
+    private static void fullTape() {
+        CHECK.fault(" ".repeat(697) + "boo", 1, 697);
+        CHECK.fault(" ".repeat(696) + "book", 1, 700);
+        CHECK.fault(" ".repeat(694) + "book 1", 1, 700);
+        CHECK.fault(" ".repeat(693) + "book 1;", 0, -1);
+        CHECK.fault("book 1;" + " ".repeat(693), 0, -1);
+        CHECK.fault("reader 1 stops 1" + "+1".repeat(341) + " ;", 0, -1);
+        CHECK.fault("reader 1 stops 1" + "+1".repeat(342), 1, 700);
+        CHECK.fault(";".repeat(700), 1, 0);
+        CHECK.fault("reader 1 stops " + "(".repeat(685), 2, 21);
+        CHECK.fault("book " + "1".repeat(695), 2, 5);
+        CHECK.fault("x".repeat(700), 1, 0);
+    }
+
+    private static void manyRooms() {
+        SlipRoom room = new SlipRoom();
+        for (int i = 1; i <= 5; i++) {
+            CHECK.due("room " + i, Check.tell(room, times("book 9;", i) + times("reader 9 stops page = " + i + ";", 6 - i)), 0);
+            CHECK.due("books " + i, room.count(0), i);
+            CHECK.due("readers " + i, room.count(1), 6 - i);
+            CHECK.due("by the law " + i, room.loan(5 - i, i - 1, 0, 1), i);
+            CHECK.due("a fault " + i, Check.tell(room, "book 1; reader 1 stops 1; reader"), 1);
+        }
+        CHECK.due("faults", room.count(7), 5);
+    }
+
     private static void roomIsAllAnew() {
         SlipRoom room = CHECK.roomOf("book 20; reader 5; reader 6;");
         room.loan(0, 0, 5, 2);
@@ -106,6 +155,15 @@ public final class TextTest {
         }
         CHECK.due("first loan anew", room.loan(0, 0, 0, 1), 5);
         CHECK.due("its begin", room.lent(0, 4), 1);
+
+        CHECK.due("room", Check.tell(room, "book 9; reader 9 ends;"), 0);
+        room.loan(0, 0, 7, 1);
+        CHECK.due("all read", room.read(0, 0, 3), 7);
+        CHECK.due("room", Check.tell(room, "book 9; reader 3 ends;"), 0);
+        CHECK.due("all read, anew", room.read(0, 0, 3), -1);
+        CHECK.due("slips, anew", room.book(0, 3), 0);
+        room.loan(0, 0, 7, 1);
+        CHECK.due("the first time again, with the last page", room.read(0, 0, 0), 4);
     }
 
     private static void faultLeavesAll() {
@@ -223,6 +281,11 @@ public final class TextTest {
         CHECK.fault("book 1\r;", 1, 6);
         CHECK.fault("book 1" + (char) 200 + ";", 1, 6);
         CHECK.fault("book 1" + (char) 0 + ";", 1, 6);
+        for (char sign = 0; sign < 10; sign++) {
+            CHECK.fault("book 1;" + sign, 1, 7);
+            CHECK.fault("book " + sign + ";", 1, 5);
+            CHECK.fault("reader 1 stops " + sign + ";", 1, 15);
+        }
         CHECK.fault("book 1 > ;", 1, 7);
         CHECK.fault("reader colour;", 1, 7);
         CHECK.fault("reader 1 back 1 colour 1;", 1, 16);
@@ -317,6 +380,9 @@ public final class TextTest {
 
     private static void noValues() {
         CHECK.fault("reader 1 stops foo;", 3, 15);
+        CHECK.fault("reader 1 stops zaz;", 3, 15);
+        CHECK.fault("reader 1 stops z;", 3, 15);
+        CHECK.fault("reader 1 stops a;", 3, 15);
         CHECK.fault("reader 1 stops pages;", 3, 15);
         CHECK.fault("reader 1 stops parts;", 3, 15);
         CHECK.fault("reader 1 stops and;", 3, 15);

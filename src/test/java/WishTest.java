@@ -107,6 +107,7 @@ public final class WishTest {
     private static void noSuch() {
         SlipRoom room = CHECK.roomOf("reader 1;");
         CHECK.noElement("wish(1, 1, 1)", () -> room.wish(1, 1, 1));
+        CHECK.noElement("wish(8, 1, 1)", () -> room.wish(8, 1, 1));
         CHECK.noElement("wish(-1, 0, -1)", () -> room.wish(-1, 0, -1));
         CHECK.due("STATUS 4 counts no exceptions", room.count(11), 0);
         CHECK.due("no wishes", room.count(4), 0);
