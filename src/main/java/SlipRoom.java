@@ -218,8 +218,8 @@ public final class SlipRoom {
         int next = readLoan(reader, book, begin, from, hours);
         now.slip[cell] = next;
         now.laid[cell] = next;
-        now.enterLoan(reader, book, from, hours);
-        return now.enterPages(begin, next - begin);
+        now.enterLoan(reader, book, from, hours, begin, next - begin);
+        return next - begin;
     }
 
     public int lent(int loan, int what) throws NoSuchElementException {
@@ -413,7 +413,7 @@ public final class SlipRoom {
     private static int onlyOne(int readers) {
         int found = NONE;
         for (int reader = 0; reader < MOST_READERS; reader++) {
-            if (readers == 1 << reader) {
+            if (readers == (1 << reader)) {
                 found = reader;
             }
         }
@@ -976,7 +976,7 @@ public final class SlipRoom {
         }
 
         boolean isRead(int cell, int page) {
-            return (readBits[cell * WORDS + (page - 1) / 64] >>> ((page - 1) % 64) & 1L) == 1L;
+            return ((readBits[cell * WORDS + (page - 1) / 64] >>> ((page - 1) % 64)) & 1L) == 1L;
         }
 
         void mark(int cell, int page, int pages, int hour) {
@@ -1014,24 +1014,18 @@ public final class SlipRoom {
             return isRead(cell, pages) && 10 * readPages[cell] < pages;
         }
 
-        /** The row's last two numbers come by enterPages. */
-        void enterLoan(int reader, int book, int from, int hours) {
+        void enterLoan(int reader, int book, int from, int hours, int begin, int pages) {
             int row = loans * LOAN_FIELDS;
             loanRows[row] = reader;
             loanRows[row + 1] = book;
             loanRows[row + 2] = from;
             loanRows[row + 3] = hours;
+            loanRows[row + 4] = begin;
+            loanRows[row + 5] = pages;
             loans++;
             latestBegin = from;
             bookUntil[book] = from + hours;
             readerUntil[reader] = from + hours;
-        }
-
-        int enterPages(int begin, int pages) {
-            int behind = loans * LOAN_FIELDS;
-            loanRows[behind - 2] = begin;
-            loanRows[behind - 1] = pages;
-            return pages;
         }
 
         int slipsIn(int book) {
@@ -1183,7 +1177,7 @@ public final class SlipRoom {
             }
             int moved = 0;
             for (int look = 0; look < looks; look++) {
-                if (splits[allLooks() ^ 1 << look] > 0) {
+                if (splits[allLooks() ^ (1 << look)] > 0) {
                     moved |= 1 << number[look];
                 }
             }
@@ -1228,7 +1222,7 @@ public final class SlipRoom {
             fits[base] = true;
             for (int set = 1; set <= allLooks(); set++) {
                 int last = lastIn(set);
-                int rest = set ^ 1 << last;
+                int rest = set ^ (1 << last);
                 fits[base + set] = fits[base + rest] && colour[last] == plan.colour[reader]
                         && (rest == 0 ? mayBeFirst(reader, last) : mayFollow(reader, lastIn(rest), last));
             }
@@ -1249,7 +1243,7 @@ public final class SlipRoom {
         private static int lastIn(int set) {
             int last = 0;
             for (int look = 0; look < MOST_LOOKS_OF_BOOK; look++) {
-                if ((set >> look & 1) == 1) {
+                if (((set >> look) & 1) == 1) {
                     last = look;
                 }
             }
@@ -1271,7 +1265,7 @@ public final class SlipRoom {
         private void addSharer(int reader) {
             int base = reader * LOOK_SETS;
             for (int set = allLooks(); set > 0; set--) {
-                for (int own = set; own > 0; own = own - 1 & set) {
+                for (int own = set; own > 0; own = (own - 1) & set) {
                     if (fits[base + own]) {
                         splits[set] += splits[set ^ own];
                     }
@@ -1288,7 +1282,7 @@ public final class SlipRoom {
             split(reader);
             boolean may = false;
             for (int set = 1; set <= allLooks(); set++) {
-                may = may || holds(set, look) && happens(reader, set);
+                may = may || (holds(set, look) && happens(reader, set));
             }
             return may;
         }
@@ -1296,7 +1290,7 @@ public final class SlipRoom {
         private boolean holds(int set, int look) {
             boolean found = false;
             for (int place = 0; place < looks; place++) {
-                found = found || number[place] == look && (set >> place & 1) == 1;
+                found = found || (number[place] == look && ((set >> place) & 1) == 1);
             }
             return found;
         }
@@ -1331,11 +1325,11 @@ public final class SlipRoom {
                 return;
             }
             for (int wish = 0; wish < ledger.wishes; wish++) {
-                if ((placed >> wish & 1) == 0) {
+                if (((placed >> wish) & 1) == 0) {
                     int ready = ledger.wishReady[wish];
                     int begin = Math.max(through, ready);
                     row[depth] = wish;
-                    place(ledger, depth + 1, placed | 1 << wish, begin + ledger.wishHours[wish],
+                    place(ledger, depth + 1, placed | (1 << wish), begin + ledger.wishHours[wish],
                             waited + begin - ready);
                 }
             }
@@ -1375,7 +1369,7 @@ public final class SlipRoom {
         private int looksFrom(int[] tales, int book, int set) {
             int worst = 0;
             for (int tale = 0; tale < TALES; tale++) {
-                if ((set >> tale & 1) == 1) {
+                if (((set >> tale) & 1) == 1) {
                     int left = leftBy(tales, book, set, tales[tale * MOST_BOOKS + book]);
                     if (left == set || fewestLooks[left] == NONE) {
                         return NONE;
@@ -1389,7 +1383,7 @@ public final class SlipRoom {
         private static int leftBy(int[] tales, int book, int set, int page) {
             int left = 0;
             for (int tale = 0; tale < TALES; tale++) {
-                if ((set >> tale & 1) == 1 && tales[tale * MOST_BOOKS + book] == page) {
+                if (((set >> tale) & 1) == 1 && tales[tale * MOST_BOOKS + book] == page) {
                     left |= 1 << tale;
                 }
             }

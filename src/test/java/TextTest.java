@@ -121,6 +121,16 @@ public final class TextTest {
             CHECK.due("a fault " + i, Check.tell(room, "book 1; reader 1 stops 1; reader"), 1);
         }
         CHECK.due("faults", room.count(7), 5);
+
+        SlipRoom thick = new SlipRoom();
+        for (int i = 0; i < 6; i++) {
+            CHECK.due("thick room " + i, Check.tell(thick, "book 9;reader 9 stops 0" + times("*1", 330) + "=1;"), 0);
+            thick.loan(0, 0, 0, 1);
+            CHECK.due("by the thick law " + i, thick.slip(0, 0), 10);
+            CHECK.due("thick room " + i, Check.tell(thick, "book 9;reader 9 stops 1" + times("*1", 330) + "=1;"), 0);
+            thick.loan(0, 0, 0, 1);
+            CHECK.due("by the thick law " + i, thick.slip(0, 0), 2);
+        }
     }
 
     private static void roomIsAllAnew() {
