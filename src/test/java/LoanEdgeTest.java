@@ -296,6 +296,10 @@ public final class LoanEdgeTest {
         EDGE.holds("10: to where -1 would be NONE", at10, "drop 0 1 -11 = 1", "slip 0 0 = -1", "book 0 3 = 0");
         EDGE.holds("10: to the last page", at10, "drop 0 1 10 = 0", "slip 0 0 = 20");
         EDGE.holds("10: behind the last page there is none", at10, "drop 0 1 11 = 1", "slip 0 0 = -1");
+        EDGE.holds("10: from page 1 on", at10, "drop 0 1 -9 = 0", "drop 0 1 1 = 0", "slip 0 0 = 2");
+        EDGE.holds("10: from page 1 to the last", at10, "drop 0 1 -9 = 0", "drop 0 1 19 = 0", "slip 0 0 = 20");
+        EDGE.holds("10: from page 1 less", at10, "drop 0 1 -9 = 0", "drop 0 1 -1 = 1", "slip 0 0 = -1");
+        EDGE.holds("10: from page 1 by 0", at10, "drop 0 1 -9 = 0", "drop 0 1 0 = 1", "slip 0 0 = -1");
         String[] through = {"tell book 20; reader 20; = 0", "loan 0 0 0 1 = 20", "slip 0 0 = 21"};
         EDGE.holds("10: from behind the last page to it", through, "drop 0 1 -1 = 0", "slip 0 0 = 20");
         EDGE.holds("10: from behind the last page to page 1", through, "drop 0 1 -20 = 0", "slip 0 0 = 1");
@@ -424,7 +428,8 @@ public final class LoanEdgeTest {
         int falls = (page - 2) / 50;
         int rest = (page - 2) % 50;
         EDGE.holds("13: page " + page + " by itself", "tell book 400; reader 1; = 0", "loan 0 0 0 1 = 1",
-                Edge.each(falls, i -> "drop 0 1 50 = 0"), Edge.each(rest == 0 ? 0 : 1, i -> "drop 0 1 " + rest + " = 0"),
+                Edge.each(falls, i -> "drop 0 1 50 = 0"),
+                Edge.each(rest == 0 ? 0 : 1, i -> "drop 0 1 " + rest + " = 0"),
                 "loan 0 0 1 1 = 1", "lent 1 4 = " + page, "read 0 0 0 = 2", "read 0 0 1 = " + (page == 2 ? 2 : 1),
                 "book 0 2 = 398", "has 0 0 " + page + " = true",
                 "has 0 0 " + (page - 1) + " = " + (page == 2),

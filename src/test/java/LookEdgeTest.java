@@ -19,6 +19,8 @@ public final class LookEdgeTest {
         nextLookAndBack();
         nextLookAndLoans();
         byHours();
+        byNumbers();
+        laterReaders();
         waysAreMany();
         loansComeLater();
         mayAndSure();
@@ -205,6 +207,37 @@ public final class LookEdgeTest {
         EDGE.holds("16: six, told backwards", ONE, "loan 0 0 0 9 = 45",
                 Edge.each(6, i -> "look 0 " + (8 - i) + " 0 " + (26 - 5 * i) + " = " + i), "ways 0 = 1",
                 "whose 0 1 = 0", "whose 5 1 = 0", "ends 0 0 0 = 26", "ends 0 0 1 = 26", "moved 0 = 0");
+    }
+
+    /** Each LOOK keeps its number and COLOUR, wherever its HOUR puts it. */
+    private static void byNumbers() {
+        String four = "tell book 90; reader 5; reader 6 colour 1; reader 7 colour 2; reader 8 colour 3; = 0";
+        EDGE.holds("16: of four COLOURS, told backwards", four,
+                Edge.each(4, i -> "look 0 " + (8 - i) + " " + i + " 1 = " + i), "ways 0 = 1",
+                Edge.each(4, i -> "whose " + i + " 1 = " + i), "moved 0 = 0");
+        EDGE.holds("16: of four COLOURS, the last told first", four, "look 0 5 3 1 = 0", "look 0 2 2 1 = 1",
+                "look 0 4 1 1 = 2", "look 0 3 0 1 = 3", "whose 0 1 = 3", "whose 1 1 = 2", "whose 2 1 = 1",
+                "whose 3 1 = 0");
+        EDGE.holds("16: of one COLOUR, the middle one told last", "tell book 90; reader 5; reader 5; = 0",
+                "loan 0 0 0 1 = 5", "look 0 3 0 1 = 0", "look 0 5 0 1 = 1", "look 0 4 0 6 = 2", "whose 2 1 = 0",
+                "whose 0 1 = 1", "whose 1 1 = 1");
+        EDGE.holds("19: the middle one by its HOUR, told first", ONE, "loan 0 0 0 9 = 45", "look 0 5 0 30 = 0",
+                "look 0 3 0 9 = 1", "look 0 8 0 9 = 2", "moved 0 = 1");
+        EDGE.holds("19: the last one by its HOUR, told first", ONE, "loan 0 0 0 9 = 45", "look 0 8 0 8 = 0",
+                "look 0 3 0 9 = 1", "look 0 4 0 9 = 2", "moved 0 = 1");
+    }
+
+    private static void laterReaders() {
+        for (int reader = 1; reader < 8; reader++) {
+            String[] lent = {"tell book 90;" + "reader 9;".repeat(reader) + "reader 5 colour 1 back 2; = 0",
+                "loan " + reader + " 0 0 2 = 10", "loan " + reader + " 0 5 2 = 10", "look 0 2 1 9 = 0"};
+            String name = "16: READER " + reader + ", ";
+            EDGE.holds(name + "PACE by LENT on", lent, "look 0 7 1 19 = 1", "ways 0 = 1",
+                    "ends " + reader + " 0 0 = 19");
+            EDGE.holds(name + "one more", lent, "look 0 7 1 20 = 1", "ways 0 = 0");
+            EDGE.holds(name + "BACK by one LOAN", lent, "look 0 7 1 7 = 1", "ways 0 = 1");
+            EDGE.holds(name + "one less", lent, "look 0 7 1 6 = 1", "ways 0 = 0");
+        }
     }
 
     private static void waysAreMany() {

@@ -25,6 +25,7 @@ public final class TextEdgeTest {
         counts();
         books();
         readers();
+        nearWords();
         tokens();
         allBytes();
         clauses();
@@ -127,6 +128,14 @@ public final class TextEdgeTest {
         EDGE.holds("3: what a new room does not tell is as without", "tell book 9 parts 2; reader 1 colour 3 "
                 + "back 20 ends stops 1; = 0", "tell book 9; reader 2; = 0", "book 0 1 = 0", "reader 0 1 = 0",
                 "reader 0 2 = 0", "reader 0 3 = 0", "loan 0 0 0 2 = 4", "has 0 0 9 = false");
+        EDGE.holds("3: the first time, for ENDS, is there again", "tell book 9; reader 2 ends; = 0", "loan 0 0 0 1 = 2",
+                "tell book 9; reader 2 ends; = 0", "loan 0 0 0 1 = 2", "has 0 0 9 = true", "lent 0 4 = 1");
+        EDGE.holds("3: lost SLIPS are gone too", "tell book 9 parts 2; reader 5; = 0", "loan 0 0 0 1 = 5",
+                "drop 0 1 0 = 1", "tell book 9 parts 2; reader 5; = 0", "slip 0 0 = 0", "loan 0 0 0 1 = 5",
+                "lent 0 4 = 1");
+        EDGE.holds("3: a law as long as the tape, again and again",
+                Edge.each(6, i -> "tell book 9;reader 9 stops " + i % 2 + "*1".repeat(325) + ";" + " = 0"),
+                "loan 0 0 0 1 = 1", "tell book 9;reader 9 stops 0" + "*1".repeat(325) + "; = 0", "loan 0 0 0 1 = 9");
         EDGE.holds("3: a text that fills all rows, twice", "tell " + "book 9;".repeat(10) + "reader 9;".repeat(8)
                 + " = 0", "tell " + "book 8;".repeat(10) + "reader 8;".repeat(8) + " = 0", "book 9 0 = 8",
                 "reader 7 0 = 8");
@@ -220,6 +229,39 @@ public final class TextEdgeTest {
                 "reader 0 0 = 1", "reader 0 1 = 0", "reader 0 2 = 0", "reader 0 3 = 0", "reader 1 0 = 60",
                 "reader 1 1 = 3", "reader 1 2 = 20", "reader 1 3 = 1");
         EDGE.holds("STOPS: never without", "tell book 400; reader 60; = 0", "loan 0 0 0 1 = 60");
+    }
+
+    /** Words that are nearly the ones that may stand. */
+    private static void nearWords() {
+        for (String word : new String[] {"book", "reader"}) {
+            for (String near : near(word)) {
+                fault("no " + word + ": " + near, "book 1; " + near + " 1;", 1, 8);
+            }
+        }
+        for (String near : near("parts")) {
+            fault("no parts: " + near, "book 1 " + near + " 1;", 1, 7);
+        }
+        for (String word : new String[] {"colour", "back", "ends", "stops"}) {
+            for (String near : near(word)) {
+                fault("no " + word + ": " + near, "reader 1 " + near + (word.equals("ends") ? ";" : " 1;"), 1, 9);
+            }
+        }
+        for (String word : new String[] {"or", "and"}) {
+            for (String near : near(word)) {
+                fault("no " + word + ": " + near, "reader 1 stops 1 " + near + " 1;", 1, 17);
+            }
+        }
+        for (String word : new String[] {"page", "left", "into", "read", "hour", "day", "book", "not"}) {
+            for (String near : near(word)) {
+                fault("no " + word + ": " + near, "reader 1 stops " + near + ";", 3, 15);
+            }
+        }
+    }
+
+    private static String[] near(String word) {
+        int last = word.length() - 1;
+        return new String[] {"z" + word.substring(1), word.substring(0, last) + "z", word.substring(1),
+            word.substring(0, last), "z" + word, word + "z", word + word};
     }
 
     private static void tokens() {
@@ -396,8 +438,7 @@ public final class TextEdgeTest {
 
     private static void noValues() {
         good("VALUES: all", "reader 1 stops page+left+into+read+hour+day+book;");
-        for (String word : new String[] {"x", "pages", "pag", "parts", "reader", "colour", "back", "ends", "stops",
-            "or", "and", "hours", "days", "reads"}) {
+        for (String word : new String[] {"x", "parts", "reader", "colour", "back", "ends", "stops", "or", "and"}) {
             fault("no VALUE: " + word, "reader 1 stops " + word + ";", 3, 15);
         }
         fault("no VALUE: behind '<'", "reader 1 stops 1 < x;", 3, 19);
